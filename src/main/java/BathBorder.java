@@ -1109,7 +1109,11 @@ public final class BathBorder {
         }
 
         private static int nearer(int cell, int column) {
-            return cell + Integer.compare(column, Cells.columnOf(cell));
+            int own = cell % Cells.COLUMNS;
+            if (own == column) {
+                return cell;
+            }
+            return own < column ? cell + 1 : cell - 1;
         }
 
         /** Behind how many minutes it is out, -1 if that takes more than most. */
@@ -1271,9 +1275,10 @@ public final class BathBorder {
         static final int NUMBER = 2;
         static final int SIGN = 3;
         static final int OTHER = 4;
-        private static final int TOO_GREAT = 1000;
+        private static final int MOST_NUMBER = 999;
 
         private final int[] bytes;
+        private final int[] classes;
         int length;
         int token;
         int start;
@@ -1281,10 +1286,13 @@ public final class BathBorder {
 
         Tape() {
             bytes = new int[MOST];
+            classes = new int[MOST];
         }
 
+        /** The caller has looked whether there is room. */
         void append(int b) {
             bytes[length] = b;
+            classes[length] = classOf(b);
             length++;
         }
 
@@ -1298,10 +1306,10 @@ public final class BathBorder {
             while (start < length && bytes[start] == ' ') {
                 start++;
             }
-            token = start < length ? classOf(bytes[start]) : END;
+            token = start < length ? classes[start] : END;
             stop = start < length ? start + 1 : length;
             if (token == WORD || token == NUMBER) {
-                while (stop < length && classOf(bytes[stop]) == token) {
+                while (stop < length && classes[stop] == token) {
                     stop++;
                 }
             }
@@ -1329,11 +1337,11 @@ public final class BathBorder {
             return true;
         }
 
-        /** The token's number, too great to be any if it has more digits than one may. */
+        /** The token's number; one above 999 is not read to its end, as nothing takes it. */
         int number() {
             int number = 0;
-            for (int i = start; i < stop; i++) {
-                number = Math.min(TOO_GREAT, number * 10 + (bytes[i] - '0'));
+            for (int i = start; i < stop && number <= MOST_NUMBER; i++) {
+                number = number * 10 + (bytes[i] - '0');
             }
             return number;
         }
