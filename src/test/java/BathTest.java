@@ -151,9 +151,12 @@ public final class BathTest {
         }
         x.guard(1, 9);
         due.is("7 seen", 1, x.of(0, 6));
+        x.bather(1, 47);
+        due.is("7 another is not seen", 0, x.of(1, 6));
+        due.is("7 the first still is", 1, x.of(0, 6));
         due.is("7 what beyond", Due.BEYOND, x.of(0, 7));
         due.is("7 what below", Due.BEYOND, x.of(0, -1));
-        due.is("7 bather beyond", Due.BEYOND, x.of(1, 0));
+        due.is("7 bather beyond", Due.BEYOND, x.of(2, 0));
         due.is("7 bather below", Due.BEYOND, x.of(-1, 0));
         x.change(0, 0, 0);
         x.change(0, 1, 15);
@@ -193,6 +196,10 @@ public final class BathTest {
         step("floater right", 2, 0, 12, 13, 2);
         step("floater down", 2, 0, 12, 20, 3);
         step("floater left", 2, 1, 12, 11, 4);
+        step("floater to the first cell", 2, 1, 8, 0, 1);
+        step("floater to the first cell, left", 2, 1, 1, 0, 4);
+        step("floater to the last row", 2, 0, 36, 44, 3);
+        step("general to the last row", 6, 1, 36, 44, 0, 37);
         step("floater at the upper edge", 2, 0, 4, 4, 1);
         step("floater at the east edge", 2, 0, 15, 15, 2);
         step("floater at the lower edge", 2, 0, 44, 44, 3);

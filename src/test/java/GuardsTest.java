@@ -55,6 +55,10 @@ public final class GuardsTest {
         due.is("24 another sees it", 0, x.trap(0, 0));
         due.is("24 that one itself", 39, x.trap(1, 0));
         due.is("24 the guard is where it was", 47, x.guard(1, -1));
+        x.guard(0, 47);
+        due.is("24 the first guard sees it", 0, x.trap(3, 0));
+        x.guard(0, -1);
+        sooner();
         x.sight(0);
         x.fill(23, 0, 1);
         due.is("24 a spy in steam goes round a guard", Due.NONE, x.trap(0, 1));
@@ -65,6 +69,23 @@ public final class GuardsTest {
         x.change(0, 1, 0);
         x.go(1);
         due.is("24 out", Due.NONE, x.trap(0, 0));
+    }
+
+    /** Whoever goes east comes to greater cells later. */
+    private static void sooner() {
+        BathBorder x = new BathBorder();
+        x.bather(0, 40);
+        x.change(0, 2, 1);
+        x.sight(0);
+        x.fill(40, 0, 1);
+        due.is("24 the soonest", 41, x.trap(0, 0));
+        x.change(0, 1, 0);
+        x.fill(0, 0, 1);
+        x.guard(1, 3);
+        due.is("24 sooner than another", 1, x.trap(0, 0));
+        x.fill(1, 0, 1);
+        x.fill(2, 0, 1);
+        due.is("24 another sees it as soon", 0, x.trap(0, 0));
     }
 
     private static void enough() {

@@ -8,6 +8,9 @@ public final class MinutesTest {
         now();
         seen();
         wrong();
+        outOnBothSides();
+        seenEverAtMost();
+        minuteAtMost();
         due.end();
     }
 
@@ -78,6 +81,52 @@ public final class MinutesTest {
         x.fill(39, 0, 1);
         due.is("11 steam", Due.set(47, 46, 7, 6, 15), x.seen());
         due.is("10 as many", 5, x.now(5));
+    }
+
+    private static void outOnBothSides() {
+        BathBorder x = new BathBorder();
+        x.bather(0, 0);
+        x.bather(0, 7);
+        x.bather(0, 12);
+        x.change(1, 2, 1);
+        due.is("9 one on each side", 2, x.go(1));
+    }
+
+    private static void seenEverAtMost() {
+        BathBorder x = new BathBorder();
+        for (int b = 0; b < 8; b++) {
+            x.bather(4, 11);
+        }
+        x.guard(0, 11);
+        for (int i = 0; i < 208; i++) {
+            x.go(60);
+        }
+        due.is("9 seen ever", 8 * 208 * 60, x.now(3));
+        x.go(19);
+        due.is("9 seen ever, nearly", 99992, x.now(3));
+        x.go(1);
+        due.is("9 seen ever, at most", 99999, x.now(3));
+        due.is("31 those of each minute, though", 8, x.steams(1));
+        due.is("46 seen ever, at most", 99999, x.count(3));
+    }
+
+    /** This takes more calls than an object is promised for; no fewer come to the last minute. */
+    private static void minuteAtMost() {
+        BathBorder x = new BathBorder();
+        for (int i = 0; i < 1666; i++) {
+            x.go(60);
+        }
+        due.is("9 above 99999", Due.STATE, x.go(40));
+        x.go(20);
+        due.is("31 above 99999", Due.STATE, x.steams(20));
+        due.is("31 no draw", 1, x.count(6));
+        due.is("9 beyond ahead of state", Due.BEYOND, x.go(61));
+        due.is("31 beyond ahead of state", Due.BEYOND, x.steams(21));
+        due.is("31 just not above", 0, x.steams(19));
+        due.is("9 the last minute", 99999, x.now(0));
+        due.is("9 no more", Due.STATE, x.go(1));
+        due.is("31 no more", Due.STATE, x.steams(1));
+        due.is("9 still the last", 99999, x.count(0));
     }
 
     private static void wrong() {

@@ -23,6 +23,8 @@ public final class SheetsTest {
         due.is("36 nothing", 1, x.hold(9, -1));
         due.is("36 spots then", 0, x.count(7));
         due.is("36 nothing again", 1, x.hold(0, -1));
+        due.is("36 the first spot", 1, x.hold(0, 0));
+        due.is("36 is held", 1, x.count(7));
         int[][] wrong = {{10, 0}, {-1, 0}, {0, 1}, {0, -2}, {10, -1}};
         for (int[] w : wrong) {
             due.is("36 wrong " + w[0] + " " + w[1], Due.BEYOND, x.hold(w[0], w[1]));

@@ -138,6 +138,9 @@ public final class TextsTest {
         fault("spy 3", 4);
         fault("spy spy", 4);
         fault("swim", 0);
+        fault("xpy", 0);
+        fault("spyz", 0);
+        fault("zspy", 0);
         fault("spyat3", 0);
         fault("spy atwish 1", 4);
         fault("sight 3" + (char) 9, 7);
