@@ -117,6 +117,10 @@ public final class MinutesTest {
             x.go(60);
         }
         due.is("9 above 99999", Due.STATE, x.go(40));
+        x.image();
+        due.is("9 just not above", 0, x.go(39));
+        due.is("9 to the last minute", 99999, x.now(0));
+        due.is("44 back", 99960, x.undo());
         x.go(20);
         due.is("31 above 99999", Due.STATE, x.steams(20));
         due.is("31 no draw", 1, x.count(6));
