@@ -175,6 +175,14 @@ final class Edge {
         }
     }
 
+    /** Currents that lead round through all 48 cells; cell 9 has none, but a stayer goes on from there to cell 10. */
+    static void ring(BathBorder x) {
+        String[] rows = {"34434444", "30132231", "31441431", "32323131", "31313131", "21212121"};
+        for (int cell = 0; cell < 48; cell++) {
+            x.fill(cell, 1, rows[cell / 8].charAt(cell % 8) - '0');
+        }
+    }
+
     /** Currents that lead through columns 1 to 7, from cell 7 on, and to cell 40 at the end: 42 steps to the west. */
     static void longWay(BathBorder x) {
         for (int column = 7; column >= 1; column--) {

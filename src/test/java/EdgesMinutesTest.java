@@ -19,6 +19,7 @@ public final class EdgesMinutesTest {
         out();
         caught();
         meet();
+        meetLate();
         kindFor();
         sightFor();
         due.end();
@@ -257,6 +258,18 @@ public final class EdgesMinutesTest {
         Edge far = one(4, 0, 0).and(Edge::allCells).and(x -> x.bather(4, 40));
         far.tells("15 in the last of all cells", 47, x -> x.meet(0, 1));
         far.tells("15 there, the other first", 47, x -> x.meet(1, 0));
+    }
+
+    /** A stayer goes round ahead of a floater, who rests in cell 9 when it comes by again. */
+    private static void meetLate() {
+        Edge late = one(2, 41, 0).and(Edge::ring).and(x -> x.bather(4, 33));
+        late.tells("15 a stayer's second time", 85, x -> x.meet(0, 1));
+        late.tells("15 a stayer's second time, the other first", 85, x -> x.meet(1, 0));
+        late.and(x -> x.go(60)).tells("15 the rest of it", 25, x -> x.meet(0, 1));
+        late.tells("12 the floater rests", 9, x -> x.ahead(0, 85));
+        late.tells("12 the stayer comes", 9, x -> x.ahead(1, 85));
+        late.and(x -> x.fill(9, 1, 2)).refused("15 the floater goes on and out", Due.NONE, x -> x.meet(0, 1));
+        late.and(x -> x.change(0, 0, 4)).refused("15 one behind the other, round and round", Due.NONE, x -> x.meet(0, 1));
     }
 
     private static void kindFor() {
